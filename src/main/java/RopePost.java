@@ -6,7 +6,7 @@ public final class RopePost {
 
     private static final int POLES = 8, ROPES = 12, BOYS = 4, LOADS = 4;
     private static final int TEXT_BYTES = 500, RINGS = 200, SIGHTINGS = 20, IMAGES = 2;
-    private static final int ALIVE = 1, LEVEL = 2, LONG = 3;
+    private static final int PLAIN = 0, ALIVE = 1, LEVEL = 2, LONG = 3;
     private static final int MOST_CARRIED = 2, BREAKING_WEAR = 100, SHORTEST_FOR_LONG = 20, ALIVE_UNTIL = 60;
     private static final int MOST_PASSED = 99, LAST_MINUTE = 9999, MOST_WIND = 99, MOST_PRICE = 99;
     private static final int LONGEST_ROPE = 99, NOT_JOINED = 999;
@@ -17,7 +17,6 @@ public final class RopePost {
     private Plan plan = new Plan();
     /** The text is read into this one, so that a fault leaves the town as it was. */
     private Plan nextPlan = new Plan();
-    private int lastFault = NONE;
     private final State now = new State();
     private final State[] images = new State[IMAGES];
     private int imagesKept = 0;
@@ -51,7 +50,6 @@ public final class RopePost {
     public int town() {
         boolean sound = reader.read(nextPlan);
         reader.length = 0;
-        lastFault = reader.faultAt;
         if (!sound) {
             return -10 - reader.fault;
         }
@@ -65,7 +63,7 @@ public final class RopePost {
     }
 
     public int fault() {
-        return lastFault;
+        return reader.faultAt;
     }
 
     public int told(int what) {
@@ -522,7 +520,6 @@ public final class RopePost {
         int carried = now.carriedBy(b, plan.loads);
         int pounds = plan.boyPounds[b] + plan.poundsOf(carried);
         now.boyRope[b] = NONE;
-        now.boyLeft[b] = 0;
         for (int l = 0; l < plan.loads; l++) {
             if (has(carried, l) && plan.loadTo[l] == now.boyEnd[b]) {
                 deliver(l);
@@ -838,6 +835,7 @@ public final class RopePost {
 
         final byte[] text = new byte[TEXT_BYTES];
         int length = 0;
+        /** The number of the latest fault; faultAt is NONE where a text had none. */
         int fault = 0, faultAt = NONE;
         private int at = 0;
         /** The first byte of the latest word or number. */
@@ -854,7 +852,6 @@ public final class RopePost {
         boolean read(Plan plan) {
             plan.clear();
             at = 0;
-            fault = 0;
             faultAt = NONE;
             boolean sound = true;
             for (int clause = 0; clause < TEXT_BYTES && sound && isMore(); clause++) {
@@ -983,8 +980,21 @@ public final class RopePost {
 
         private boolean readKind() {
             readLetters();
-            number = isWord("plain") ? 0 : isWord("alive") ? ALIVE : isWord("level") ? LEVEL : isWord("long") ? LONG : NONE;
+            number = kindOfWord();
             return number != NONE || fail(OUT_OF_PLACE, start);
+        }
+
+        private int kindOfWord() {
+            if (isWord("plain")) {
+                return PLAIN;
+            }
+            if (isWord("alive")) {
+                return ALIVE;
+            }
+            if (isWord("level")) {
+                return LEVEL;
+            }
+            return isWord("long") ? LONG : NONE;
         }
 
         private boolean readEnd() {

@@ -7,6 +7,7 @@ public final class ImagesTest {
         refusals();
         goingBack();
         twoImages();
+        ringsOfImages();
         whatIsNotKept();
         Check.end("ImagesTest");
     }
@@ -145,6 +146,23 @@ public final class ImagesTest {
         x.pass(1);
         x.goBack(0);
         Check.due("the newer image", x.told(5), 5);
+    }
+
+    private static void ringsOfImages() {
+        RopePost x = Check.town("pole 0 0 2;pole 0 9 2;rope 0 1 9 99;rope 0 1 9 99;boy 0 9 3;");
+        x.keep(0);
+        x.pass(2);
+        x.go(0, 1);
+        x.keep(1);
+        x.goBack(0);
+        Check.due("no rings", x.told(8), 0);
+        Check.due("none at all", x.ring(0, 0), -1);
+        x.go(0, 0);
+        Check.due("another one", x.ring(0, 1), 0);
+        x.goBack(1);
+        Check.due("one ring", x.told(8), 1);
+        Check.due("its minute", x.ring(0, 0), 2);
+        Check.due("its rope", x.ring(0, 1), 1);
     }
 
     private static void whatIsNotKept() {

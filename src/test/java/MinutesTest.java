@@ -20,6 +20,7 @@ public final class MinutesTest {
         splicing();
         wetting();
         storming();
+        stormBelow();
         stormPassesOver();
         ringing();
         Check.end("MinutesTest");
@@ -367,6 +368,21 @@ public final class MinutesTest {
             }
         }
         Check.due("the seed behind all", x.seed(5), seed);
+    }
+
+    private static void stormBelow() {
+        for (int first = 1; first < 40; first++) {
+            RopePost x = Check.town("pole 0 0 3;pole 0 0 2;rope 0 1 10 400;");
+            seed = first;
+            int drawn = draw(100);
+            int wear = draw(40);
+            x.seed(first);
+            x.storm(drawn);
+            Check.due("not below " + drawn, x.rope(0, 4), 0);
+            x.seed(first);
+            x.storm(drawn + 1);
+            Check.due("below " + (drawn + 1), x.rope(0, 4), wear);
+        }
     }
 
     private static void stormPassesOver() {

@@ -13,7 +13,10 @@ public final class TownTest {
         countFaults();
         oddsFaults();
         firstAndLeastFaults();
+        nothingOfEarlierTexts();
+        faultsAtTheVeryEnd();
         townBegins();
+        townsBehindOneAnother();
         faultChangesNothing();
         whatIsTold();
         poles();
@@ -112,6 +115,16 @@ public final class TownTest {
         bad("town 1;", 1, 0);
         bad("  pol", 1, 2);
         bad("poles 0 0 1;", 1, 0);
+        bad("polez 0 0 1;", 1, 0);
+        bad("polea 0 0 1;", 1, 0);
+        bad("pole{ 0 0 1;", 1, 4);
+        bad("pole` 0 0 1;", 1, 4);
+        bad("pole / 0 1;", 1, 5);
+        bad("pole : 0 1;", 1, 5);
+        bad("mole 0 0 1;", 1, 0);
+        bad("polo 0 0 1;", 1, 0);
+        bad(P + P + "load 0 1 1 1 slain;", 1, 35);
+        bad(P + P + "load 0 1 1 1 song;", 1, 35);
         bad("Pole 0 0 1;", 1, 0);
         bad("poleX 0 0 1;", 1, 4);
         bad("pole", 1, 4);
@@ -198,6 +211,56 @@ public final class TownTest {
         bad(P + "rope 0 0 0 0;", 4, 18);
         bad(P + "boy 0 1 1;boy 0 201 51;", 4, 25);
         bad("pole 0 0 1,pole 0 0 9;", 1, 10);
+    }
+
+    private static void again(RopePost x, String text, int answer, int at) {
+        Check.feed(x, text);
+        Check.due("town of '" + text + "' behind others", x.town(), answer);
+        Check.due("its fault", x.fault(), at);
+    }
+
+    private static void nothingOfEarlierTexts() {
+        RopePost x = new RopePost();
+        again(x, "pole 0 0 1;", 1, -1);
+        again(x, "pole 0 0 1", -11, 10);
+        again(x, "pole 0 0 12", -12, 9);
+        again(x, "pole 0 0 1", -11, 10);
+        again(x, "pole 0 0 1;pole", -11, 15);
+        again(x, "pole 0 0 1;pol", -11, 11);
+        again(x, "pole 0 0 1;     x", -11, 16);
+        again(x, "pole 0 0 1;   ", 1, -1);
+    }
+
+    private static void faultsAtTheVeryEnd() {
+        String blanks = " ".repeat(500);
+        bad((blanks + "pole 0 0 1").substring(10), 1, 500);
+        bad((blanks + "pole 0 0 1 ").substring(11), 1, 500);
+        bad((blanks + "pole").substring(4), 1, 500);
+        bad((blanks + "pol").substring(3), 1, 497);
+        bad((blanks + "pole 0 0 6").substring(10), 2, 499);
+        bad((blanks + ";").substring(1), 1, 499);
+        good((blanks + P).substring(11), 1);
+    }
+
+    private static void townsBehindOneAnother() {
+        RopePost x = new RopePost();
+        String many = "pole 0 0 5;pole 0 9 5;pole 9 9 5;rope 0 1 9 99;rope 1 2 9 99;rope 0 1 9 99;rope 1 2 9 99;boy 0 9 3;boy 1 9 3;"
+            + "load 0 1 1 7 plain;load 1 0 1 7 plain;";
+        for (int turn = 0; turn < 3; turn++) {
+            again(x, many, 3, -1);
+            x.go(0, 0);
+            x.pass(1);
+        }
+        again(x, "pole 0 0 1;pole 0 9 1;pole 0 0 2;rope 0 2 9 99;boy 0 9 3;load 1 0 1 7 plain;", 3, -1);
+        int[] told = {3, 1, 1, 1, 0, 0, 0, 0, 0, 0, 1};
+        for (int what = 0; what <= 10; what++) {
+            Check.due("told(" + what + ") behind others", x.told(what), told[what]);
+        }
+        Check.due("at a pole", x.boy(0, 1), -1);
+        Check.due("no minutes to go", x.boy(0, 2), 0);
+        Check.due("no ropes of old", x.kept(3), -1);
+        Check.due("no rope of old joins them", x.newRope(0), 0);
+        Check.due("nor these", x.newRope(1), 1);
     }
 
     private static void townBegins() {
