@@ -566,6 +566,10 @@ public final class RopePost {
 
     /** Behind learnRounds of that boy, for loads among the live ones. */
     private int roundOf(int b, int loads) {
+        // Where nothing is to be delivered, he need not come to the end of his rope.
+        if (loads == 0) {
+            return 0;
+        }
         return now.boyLeft[b] + rounds.rest(loads, 0, now.boyEnd[b]);
     }
 

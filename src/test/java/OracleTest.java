@@ -198,6 +198,9 @@ public final class OracleTest {
                 start |= 2 << 3 + 2 * l;
             }
         }
+        if ((start & ~7) == all) {
+            return 0;
+        }
         Map<Integer, Integer> least = new HashMap<>();
         PriorityQueue<int[]> open = new PriorityQueue<>((u, v) -> Integer.compare(u[0], v[0]));
         open.add(new int[] {post.boy(b, 2), start});

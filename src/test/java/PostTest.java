@@ -12,6 +12,7 @@ public final class PostTest {
         roundWhereLoadsLie();
         dealt();
         dealtFirstOfLike();
+        dealtWithIdleOnRopes();
         dealtCannotBe();
         Check.end("PostTest");
     }
@@ -103,9 +104,10 @@ public final class PostTest {
         x.pass(2);
         Check.due("from the end to which he goes", x.round(0, 1), 6);
         Check.due("what he carries lies where it was told", x.round(0, 2), 9);
-        Check.due("with the minutes to it, for nothing too", x.round(0, 0), 3);
+        Check.due("of no loads, on a rope", x.round(0, 0), 0);
         x.pass(5);
         Check.due("he waits", x.boy(0, 2), 1);
+        Check.due("of no loads, waiting", x.round(0, 0), 0);
         Check.due("from where he waits", x.round(0, 1), 4);
         x.go(1, 1);
         x.pass(1);
@@ -130,6 +132,11 @@ public final class PostTest {
         x.go(0, 1);
         x.pass(1);
         Check.due("all delivered", x.round(1, 3), 0);
+        x.go(1, 1);
+        Check.due("all delivered, on a rope", x.round(1, 3), 0);
+        Check.due("one delivered, on a rope", x.round(1, 2), 0);
+        Check.due("of no loads, on a rope", x.round(1, 0), 0);
+        Check.due("dealt then", x.dealt(-1), 0);
     }
 
     private static void dealt() {
@@ -173,7 +180,34 @@ public final class PostTest {
         x.go(0, 1);
         x.pass(2);
         Check.due("nothing left to deal", x.dealt(0), NONE);
-        Check.due("one is still on his way", x.dealt(-1), 97);
+        Check.due("though one is still on his way", x.dealt(-1), 0);
+    }
+
+    private static void dealtWithIdleOnRopes() {
+        RopePost x = Check.town("pole 0 0 5;pole 0 0 5;pole 0 0 5;rope 0 1 99 99;rope 0 2 10 99;boy 0 9 1;boy 0 9 10;"
+            + "load 0 2 1 1 plain;load 0 2 1 1 plain;");
+        x.go(0, 0);
+        x.pass(1);
+        Check.due("he on the long rope", x.round(0, 1), 98 + 99 + 10);
+        Check.due("has no part in the longest", x.dealt(-1), 1);
+        Check.due("nor in the deal", x.dealt(0), 1);
+        Check.due("nor of the other load", x.dealt(1), 1);
+        x = Check.town("pole 0 0 5;pole 0 0 5;pole 0 0 5;rope 0 1 9 99;rope 1 0 9 99;rope 0 2 5 99;boy 0 9 1;boy 1 9 1;"
+            + "load 0 2 1 1 plain;load 0 2 1 1 plain;");
+        x.go(0, 0);
+        x.go(1, 1);
+        x.pass(8);
+        Check.due("he who comes", x.round(1, 3), 1 + 5);
+        Check.due("he who goes", x.round(0, 3), 1 + 9 + 5);
+        Check.due("longest", x.dealt(-1), 6);
+        Check.due("both to him who comes", x.dealt(0), 1);
+        Check.due("both to him", x.dealt(1), 1);
+        x.pass(1);
+        x.go(1, 2);
+        Check.due("he who went off would be later", x.round(1, 3), 5 + 5 + 5);
+        Check.due("than he who stands", x.dealt(-1), 9 + 5);
+        Check.due("both to him who stands", x.dealt(0), 0);
+        Check.due("both", x.dealt(1), 0);
     }
 
     private static void dealtCannotBe() {
