@@ -2,8 +2,14 @@
 final class Check {
     private static int calls = 0;
     private static int wrong = 0;
+    private static String sentence = "";
 
     private Check() {
+    }
+
+    /** The words of the document that the next answers hold; told with each answer that is not as due. */
+    static void sentence(String words) {
+        sentence = "[" + words + "] ";
     }
 
     static void due(String call, long got, long want) {
@@ -11,7 +17,7 @@ final class Check {
         if (got != want) {
             wrong++;
             if (wrong <= 40) {
-                System.out.println(call + " answered " + got + ", due is " + want);
+                System.out.println(sentence + call + " answered " + got + ", due is " + want);
             }
         }
     }
@@ -19,12 +25,21 @@ final class Check {
     static void feed(RopePost post, String text) {
         for (int at = 0; at < text.length(); at += 8) {
             int n = Math.min(8, text.length() - at);
-            long bytes = 0;
-            for (int k = 0; k < n; k++) {
-                bytes = bytes << 8 | text.charAt(at + k) & 255;
-            }
-            post.feed(n, bytes);
+            post.feed(n, bytes(text, at, n));
         }
+    }
+
+    /** Up to eight signs as one number, the first of them the highest byte; makes nothing, so that WildTest can count. */
+    private static long bytes(String text, int at, int n) {
+        long bytes = 0;
+        for (int k = 0; k < n; k++) {
+            bytes = bytes << 8 | text.charAt(at + k) & 255;
+        }
+        return bytes;
+    }
+
+    static long bytes(String signs) {
+        return bytes(signs, 0, signs.length());
     }
 
     static RopePost town(String text) {
@@ -35,6 +50,25 @@ final class Check {
             due("town of " + text + " (fault at " + post.fault() + ")", answer, 0);
         }
         return post;
+    }
+
+    /** A text without a fault, told to a new object. */
+    static void good(String text, int poles) {
+        RopePost x = new RopePost();
+        feed(x, text);
+        due("town of '" + text + "'", x.town(), poles);
+        due("fault of '" + text + "'", x.fault(), -1);
+        due("poles of '" + text + "'", x.told(0), poles);
+    }
+
+    /** A text with a fault, told to a new object. */
+    static void bad(String text, int fault, int at) {
+        RopePost x = new RopePost();
+        feed(x, text);
+        due("town of '" + text + "'", x.town(), -10 - fault);
+        due("fault of '" + text + "'", x.fault(), at);
+        due("poles of '" + text + "'", x.told(0), 0);
+        due("bytes behind '" + text + "'", x.told(4), 0);
     }
 
     static void end(String name) {

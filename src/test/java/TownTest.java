@@ -77,140 +77,124 @@ public final class TownTest {
         Check.due("feed again", x.feed(1, 0x20L), 1);
     }
 
-    private static void good(String text, int poles) {
-        RopePost x = new RopePost();
-        Check.feed(x, text);
-        Check.due("town of '" + text + "'", x.town(), poles);
-        Check.due("fault of '" + text + "'", x.fault(), -1);
-    }
-
-    private static void bad(String text, int fault, int at) {
-        RopePost x = new RopePost();
-        Check.feed(x, text);
-        Check.due("town of '" + text + "'", x.town(), -10 - fault);
-        Check.due("fault of '" + text + "'", x.fault(), at);
-        Check.due("poles of '" + text + "'", x.told(0), 0);
-        Check.due("bytes behind '" + text + "'", x.told(4), 0);
-    }
-
     private static void goodTexts() {
-        good("", 0);
-        good("   ", 0);
-        good(P, 1);
-        good("  pole  0   0  1  ;  ", 1);
-        good("pole0 0 1;", 1);
-        good("pole 000 099 005;", 1);
-        good("pole 99 99 5;pole 99 99 1;rope 0 1 99 999;rope1 0 1 1;rope 0 1 1 1;", 2);
-        good("pole 0 0 5;boy 0 200 50;boy 0 1 1;boy 0 1 1;boy 0 1 1;", 1);
-        good(P + P + "load 0 1 200 999plain;load 1 0 0 0 alive;load 0 1 0 0level ;load 0 1 0 0 long;", 2);
-        good(P + P + P + P + P + P + P + P, 8);
+        Check.good("", 0);
+        Check.good("   ", 0);
+        Check.good(P, 1);
+        Check.good("  pole  0   0  1  ;  ", 1);
+        Check.good("pole0 0 1;", 1);
+        Check.good("pole 000 099 005;", 1);
+        Check.good("pole 99 99 5;pole 99 99 1;rope 0 1 99 999;rope1 0 1 1;rope 0 1 1 1;", 2);
+        Check.good("pole 0 0 5;boy 0 200 50;boy 0 1 1;boy 0 1 1;boy 0 1 1;", 1);
+        Check.good(P + P + "load 0 1 200 999plain;load 1 0 0 0 alive;load 0 1 0 0level ;load 0 1 0 0 long;", 2);
+        Check.good(P + P + P + P + P + P + P + P, 8);
         StringBuilder ropes = new StringBuilder(P + P);
         for (int r = 0; r < 12; r++) {
             ropes.append("rope 0 1 1 1;");
         }
-        good(ropes.toString(), 2);
+        Check.good(ropes.toString(), 2);
     }
 
     private static void placeFaults() {
-        bad("town 1;", 1, 0);
-        bad("  pol", 1, 2);
-        bad("poles 0 0 1;", 1, 0);
-        bad("polez 0 0 1;", 1, 0);
-        bad("polea 0 0 1;", 1, 0);
-        bad("pole{ 0 0 1;", 1, 4);
-        bad("pole` 0 0 1;", 1, 4);
-        bad("pole / 0 1;", 1, 5);
-        bad("pole : 0 1;", 1, 5);
-        bad("mole 0 0 1;", 1, 0);
-        bad("polo 0 0 1;", 1, 0);
-        bad(P + P + "load 0 1 1 1 slain;", 1, 35);
-        bad(P + P + "load 0 1 1 1 song;", 1, 35);
-        bad("Pole 0 0 1;", 1, 0);
-        bad("poleX 0 0 1;", 1, 4);
-        bad("pole", 1, 4);
-        bad("pole  ", 1, 6);
-        bad("pole 0 0 1", 1, 10);
-        bad("pole 0 0 1 ", 1, 11);
-        bad("pole 0 0;", 1, 8);
-        bad("pole 0 0 1 2;", 1, 11);
-        bad("pole 0 0 1 2222;", 1, 11);
-        bad("pole 0 0 1a;", 1, 10);
-        bad("pole 0 0 1;;", 1, 11);
-        bad("pole 0 -1 1;", 1, 7);
-        bad("pole 0 a 1;", 1, 7);
-        bad(";", 1, 0);
-        bad("5", 1, 0);
-        bad("po le 0 0 1;", 1, 0);
-        bad("polepole 0 0 1;", 1, 0);
-        bad("pole\t0 0 1;", 1, 4);
-        bad("pole 0 0 1;" + (char) 255, 1, 11);
-        bad("pole 0 0 1;" + (char) 0, 1, 11);
-        bad(P + P + "load 0 1 1 1 odd;", 1, 35);
-        bad(P + P + "load 0 1 1 1 ;", 1, 35);
-        bad(P + P + "load 0 1 1 1 plainly;", 1, 35);
-        bad(P + P + "load 0 1 1 1 plain", 1, 40);
-        bad(P + P + "load 0 1 1 1 long 1;", 1, 40);
-        bad(P + P + "load 0 1 1 1 1 long;", 1, 35);
+        Check.bad("town 1;", 1, 0);
+        Check.bad("  pol", 1, 2);
+        Check.bad("poles 0 0 1;", 1, 0);
+        Check.bad("polez 0 0 1;", 1, 0);
+        Check.bad("polea 0 0 1;", 1, 0);
+        Check.bad("pole{ 0 0 1;", 1, 4);
+        Check.bad("pole` 0 0 1;", 1, 4);
+        Check.bad("pole / 0 1;", 1, 5);
+        Check.bad("pole : 0 1;", 1, 5);
+        Check.bad("mole 0 0 1;", 1, 0);
+        Check.bad("polo 0 0 1;", 1, 0);
+        Check.bad(P + P + "load 0 1 1 1 slain;", 1, 35);
+        Check.bad(P + P + "load 0 1 1 1 song;", 1, 35);
+        Check.bad("Pole 0 0 1;", 1, 0);
+        Check.bad("poleX 0 0 1;", 1, 4);
+        Check.bad("pole", 1, 4);
+        Check.bad("pole  ", 1, 6);
+        Check.bad("pole 0 0 1", 1, 10);
+        Check.bad("pole 0 0 1 ", 1, 11);
+        Check.bad("pole 0 0;", 1, 8);
+        Check.bad("pole 0 0 1 2;", 1, 11);
+        Check.bad("pole 0 0 1 2222;", 1, 11);
+        Check.bad("pole 0 0 1a;", 1, 10);
+        Check.bad("pole 0 0 1;;", 1, 11);
+        Check.bad("pole 0 -1 1;", 1, 7);
+        Check.bad("pole 0 a 1;", 1, 7);
+        Check.bad(";", 1, 0);
+        Check.bad("5", 1, 0);
+        Check.bad("po le 0 0 1;", 1, 0);
+        Check.bad("polepole 0 0 1;", 1, 0);
+        Check.bad("pole\t0 0 1;", 1, 4);
+        Check.bad("pole 0 0 1;" + (char) 255, 1, 11);
+        Check.bad("pole 0 0 1;" + (char) 0, 1, 11);
+        Check.bad(P + P + "load 0 1 1 1 odd;", 1, 35);
+        Check.bad(P + P + "load 0 1 1 1 ;", 1, 35);
+        Check.bad(P + P + "load 0 1 1 1 plainly;", 1, 35);
+        Check.bad(P + P + "load 0 1 1 1 plain", 1, 40);
+        Check.bad(P + P + "load 0 1 1 1 long 1;", 1, 40);
+        Check.bad(P + P + "load 0 1 1 1 1 long;", 1, 35);
     }
 
     private static void boundFaults() {
-        bad("pole 100 0 1;", 2, 5);
-        bad("pole 0 100 1;", 2, 7);
-        bad("pole 0 0 0;", 2, 9);
-        bad("pole 0 0 6;", 2, 9);
-        bad("pole 0001 0 1;", 2, 5);
-        bad("pole 4294967296 0 1;", 2, 5);
-        bad("pole 0 0 1000", 2, 9);
-        bad("rope 0 1 1 1;", 2, 5);
-        bad("boy 0 1 1;", 2, 4);
-        bad("load 0 1 1 1 plain;", 2, 5);
-        bad(P + "rope 0 1 1 1;", 2, 18);
-        bad(P + "load 0 1 1 1 plain;", 2, 18);
-        bad(P + P + "rope 0 1 0 1;", 2, 31);
-        bad(P + P + "rope 0 1 100 1;", 2, 31);
-        bad(P + P + "rope 0 1 1 0;", 2, 33);
-        bad(P + P + "rope 0 1 1 1000;", 2, 33);
-        bad(P + "boy 1 1 1;", 2, 15);
-        bad(P + "boy 0 0 1;", 2, 17);
-        bad(P + "boy 0 201 1;", 2, 17);
-        bad(P + "boy 0 1 0;", 2, 19);
-        bad(P + "boy 0 1 51;", 2, 19);
-        bad(P + P + "load 0 1 201 1 plain;", 2, 31);
-        bad(P + P + "load 0 1 1 1000 plain;", 2, 33);
+        Check.bad("pole 100 0 1;", 2, 5);
+        Check.bad("pole 0 100 1;", 2, 7);
+        Check.bad("pole 0 0 0;", 2, 9);
+        Check.bad("pole 0 0 6;", 2, 9);
+        Check.bad("pole 0001 0 1;", 2, 5);
+        Check.bad("pole 4294967296 0 1;", 2, 5);
+        Check.bad("pole 0 0 1000", 2, 9);
+        Check.bad("rope 0 1 1 1;", 2, 5);
+        Check.bad("boy 0 1 1;", 2, 4);
+        Check.bad("load 0 1 1 1 plain;", 2, 5);
+        Check.bad(P + "rope 0 1 1 1;", 2, 18);
+        Check.bad(P + "load 0 1 1 1 plain;", 2, 18);
+        Check.bad(P + P + "rope 0 1 0 1;", 2, 31);
+        Check.bad(P + P + "rope 0 1 100 1;", 2, 31);
+        Check.bad(P + P + "rope 0 1 1 0;", 2, 33);
+        Check.bad(P + P + "rope 0 1 1 1000;", 2, 33);
+        Check.bad(P + "boy 1 1 1;", 2, 15);
+        Check.bad(P + "boy 0 0 1;", 2, 17);
+        Check.bad(P + "boy 0 201 1;", 2, 17);
+        Check.bad(P + "boy 0 1 0;", 2, 19);
+        Check.bad(P + "boy 0 1 51;", 2, 19);
+        Check.bad(P + P + "load 0 1 201 1 plain;", 2, 31);
+        Check.bad(P + P + "load 0 1 1 1000 plain;", 2, 33);
     }
 
     private static void countFaults() {
         String eight = P + P + P + P + P + P + P + P;
-        bad(eight + P, 3, 88);
-        bad(eight + "  pole", 3, 90);
-        bad(eight + "poles", 1, 88);
-        bad(eight + "pole 1000", 3, 88);
+        Check.bad(eight + P, 3, 88);
+        Check.bad(eight + "  pole", 3, 90);
+        Check.bad(eight + "poles", 1, 88);
+        Check.bad(eight + "pole 1000", 3, 88);
         StringBuilder ropes = new StringBuilder(P + P);
         for (int r = 0; r < 12; r++) {
             ropes.append("rope 0 1 1 1;");
         }
-        bad(ropes + "rope", 3, 22 + 12 * 13);
+        Check.bad(ropes + "rope", 3, 22 + 12 * 13);
         String boys = "pole 0 0 5;boy 0 1 1;boy 0 1 1;boy 0 1 1;boy 0 1 1;";
-        bad(boys + "boy 0 1 1;", 3, boys.length());
+        Check.bad(boys + "boy 0 1 1;", 3, boys.length());
         String load = "load 0 1 1 1 long;";
         String loads = P + P + load + load + load + load;
-        bad(loads + load, 3, loads.length());
+        Check.bad(loads + load, 3, loads.length());
     }
 
     private static void oddsFaults() {
-        bad(P + "rope 0 0 1 1;", 4, 18);
-        bad(P + "load 0 0 1 1 plain;", 4, 18);
-        bad(P + P + "rope 1   001 1 1;", 4, 31);
-        bad(P + "boy 0 1 1;boy 0 1 1;", 4, 25);
-        bad("pole 0 0 2;pole 0 0 1;boy 1 1 1;boy 0 1 1;boy 0 1 1;boy 0 1 1;", 4, 56);
+        Check.bad(P + "rope 0 0 1 1;", 4, 18);
+        Check.bad(P + "load 0 0 1 1 plain;", 4, 18);
+        Check.bad(P + P + "rope 1   001 1 1;", 4, 31);
+        Check.bad(P + "boy 0 1 1;boy 0 1 1;", 4, 25);
+        Check.bad("pole 0 0 2;pole 0 0 1;boy 1 1 1;boy 0 1 1;boy 0 1 1;boy 0 1 1;", 4, 56);
     }
 
     private static void firstAndLeastFaults() {
-        bad("pole 100 0 0;x", 2, 5);
-        bad(P + "rope 0 0000 1 1;", 2, 18);
-        bad(P + "rope 0 0 0 0;", 4, 18);
-        bad(P + "boy 0 1 1;boy 0 201 51;", 4, 25);
-        bad("pole 0 0 1,pole 0 0 9;", 1, 10);
+        Check.bad("pole 100 0 0;x", 2, 5);
+        Check.bad(P + "rope 0 0000 1 1;", 2, 18);
+        Check.bad(P + "rope 0 0 0 0;", 4, 18);
+        Check.bad(P + "boy 0 1 1;boy 0 201 51;", 4, 25);
+        Check.bad("pole 0 0 1,pole 0 0 9;", 1, 10);
     }
 
     private static void again(RopePost x, String text, int answer, int at) {
@@ -233,13 +217,13 @@ public final class TownTest {
 
     private static void faultsAtTheVeryEnd() {
         String blanks = " ".repeat(500);
-        bad((blanks + "pole 0 0 1").substring(10), 1, 500);
-        bad((blanks + "pole 0 0 1 ").substring(11), 1, 500);
-        bad((blanks + "pole").substring(4), 1, 500);
-        bad((blanks + "pol").substring(3), 1, 497);
-        bad((blanks + "pole 0 0 6").substring(10), 2, 499);
-        bad((blanks + ";").substring(1), 1, 499);
-        good((blanks + P).substring(11), 1);
+        Check.bad((blanks + "pole 0 0 1").substring(10), 1, 500);
+        Check.bad((blanks + "pole 0 0 1 ").substring(11), 1, 500);
+        Check.bad((blanks + "pole").substring(4), 1, 500);
+        Check.bad((blanks + "pol").substring(3), 1, 497);
+        Check.bad((blanks + "pole 0 0 6").substring(10), 2, 499);
+        Check.bad((blanks + ";").substring(1), 1, 499);
+        Check.good((blanks + P).substring(11), 1);
     }
 
     private static void townsBehindOneAnother() {

