@@ -1,3 +1,9 @@
+import java.io.IOException;
+import java.nio.file.Files;
+import java.nio.file.Path;
+import java.util.Comparator;
+import java.util.stream.Stream;
+
 /** What the tests share: feeding a text, comparing answers, ending with the right code. */
 final class Check {
     private static int calls = 0;
@@ -69,6 +75,15 @@ final class Check {
         due("fault of '" + text + "'", x.fault(), at);
         due("poles of '" + text + "'", x.told(0), 0);
         due("bytes behind '" + text + "'", x.told(4), 0);
+    }
+
+    /** A folder of a test's own, with all that is in it. */
+    static void remove(Path folder) throws IOException {
+        try (Stream<Path> files = Files.walk(folder)) {
+            for (Path file : files.sorted(Comparator.reverseOrder()).toList()) {
+                Files.delete(file);
+            }
+        }
     }
 
     static void end(String name) {

@@ -1,12 +1,28 @@
+import com.sun.source.tree.CompilationUnitTree;
+import com.sun.source.tree.ExpressionTree;
+import com.sun.source.tree.IdentifierTree;
+import com.sun.source.tree.MemberSelectTree;
+import com.sun.source.tree.MethodInvocationTree;
+import com.sun.source.tree.MethodTree;
+import com.sun.source.util.JavacTask;
+import com.sun.source.util.TreeScanner;
 import java.lang.reflect.Constructor;
 import java.lang.reflect.Field;
 import java.lang.reflect.Method;
 import java.lang.reflect.Modifier;
 import java.nio.file.Files;
 import java.nio.file.Path;
+import java.util.List;
+import java.util.Map;
+import java.util.Set;
+import java.util.TreeMap;
 import java.util.TreeSet;
 import java.util.regex.Matcher;
 import java.util.regex.Pattern;
+import javax.lang.model.element.Name;
+import javax.tools.JavaCompiler;
+import javax.tools.StandardJavaFileManager;
+import javax.tools.ToolProvider;
 
 /** What of LANGUAGE.md can be read off the source and the compiled class. */
 public final class LanguageTest {
@@ -14,6 +30,9 @@ public final class LanguageTest {
         + "go(int,int) take(int,int) lay(int,int) pass(int) cut(int) splice(int) wet(int,boolean) storm(int) ring(int,int) "
         + "far(int,int,int) round(int,int) dealt(int) kept(int) newRope(int) odds(int,int,int) pays(int,int,int,int,int,int) "
         + "see(int,int,int) forget() who(int,int) judge() seed(int) keep(int) goBack(int)";
+
+    private static final Path SOURCE = Path.of("src/main/java/RopePost.java");
+    private static final int MOST_DEEP = 8;
 
     public static void main(String[] args) throws Exception {
         face();
@@ -24,7 +43,13 @@ public final class LanguageTest {
             Check.due(inside + " is not public", inside.getModifiers() & (Modifier.PUBLIC | Modifier.PROTECTED), 0);
         }
         Check.due("some twelve classes", RopePost.class.getDeclaredClasses().length <= 11 ? 1 : 0, 1);
-        source(Files.readString(Path.of("src/main/java/RopePost.java")));
+        source(Files.readString(SOURCE));
+        Calls calls = new Calls();
+        calls.read();
+        for (String name : calls.of.keySet()) {
+            int depth = calls.depth(name, 1);
+            Check.due("calls open at once from " + name + ": " + depth, depth <= MOST_DEEP ? 1 : 0, 1);
+        }
         Check.end("LanguageTest");
     }
 
@@ -39,7 +64,7 @@ public final class LanguageTest {
     }
 
     private static void face() {
-        TreeSet<String> due = new TreeSet<>(java.util.List.of(FACE.split(" ")));
+        TreeSet<String> due = new TreeSet<>(List.of(FACE.split(" ")));
         TreeSet<String> got = new TreeSet<>();
         for (Method method : RopePost.class.getDeclaredMethods()) {
             if (Modifier.isPrivate(method.getModifiers())) {
@@ -118,6 +143,45 @@ public final class LanguageTest {
                 Check.due("lines of " + lines[start].trim(), k - start < 60 ? 1 : 0, 1);
                 start = -1;
             }
+        }
+    }
+
+    /** Which names are called in which method, the library's too. Methods of like names count as one: so none is left out. */
+    private static final class Calls extends TreeScanner<Void, String> {
+        final Map<String, Set<String>> of = new TreeMap<>();
+
+        void read() throws Exception {
+            JavaCompiler compiler = ToolProvider.getSystemJavaCompiler();
+            try (StandardJavaFileManager files = compiler.getStandardFileManager(null, null, null)) {
+                JavacTask task = (JavacTask) compiler.getTask(null, files, null, List.of("-proc:none"), null, files.getJavaFileObjects(SOURCE));
+                for (CompilationUnitTree unit : task.parse()) {
+                    scan(unit, "");
+                }
+            }
+        }
+
+        @Override
+        public Void visitMethod(MethodTree method, String inside) {
+            String name = method.getName().toString();
+            of.putIfAbsent(name, new TreeSet<>());
+            return super.visitMethod(method, name);
+        }
+
+        @Override
+        public Void visitMethodInvocation(MethodInvocationTree call, String inside) {
+            ExpressionTree what = call.getMethodSelect();
+            Name name = what instanceof MemberSelectTree part ? part.getIdentifier() : ((IdentifierTree) what).getName();
+            of.computeIfAbsent(inside, key -> new TreeSet<>()).add(name.toString());
+            return super.visitMethodInvocation(call, inside);
+        }
+
+        /** Above the bound it is not looked at further: so a call of itself ends here too. */
+        int depth(String name, int level) {
+            int deepest = level;
+            for (String called : level <= MOST_DEEP ? of.getOrDefault(name, Set.of()) : Set.<String>of()) {
+                deepest = Math.max(deepest, depth(called, level + 1));
+            }
+            return deepest;
         }
     }
 }
